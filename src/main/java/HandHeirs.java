@@ -1384,9 +1384,6 @@ public final class HandHeirs {
         private final int[][] least = new int[LETTERS][PLAN_DAYS + 1];
 
         int lay(Will will, State state, int heir, int d) {
-            for (int letter = 0; letter < LETTERS; letter++) {
-                days[letter] = 0;
-            }
             if (will.letters <= 0) {
                 return 0;
             }

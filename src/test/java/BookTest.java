@@ -9,6 +9,7 @@ public final class BookTest {
         dates();
         holding();
         slotsAreApart();
+        twoWays();
         counts();
         Check.end();
     }
@@ -48,6 +49,18 @@ public final class BookTest {
         x.years(3);
         reign(x, -2, -2, -2);
         Check.due("reign(3)", x.reign(3), NONE);
+        // by turns: y in years 0, 2, 4 and 5
+        x = Check.told("letter a 0; heir x 0 0 0; heir y 0 0 10; days 0; master m = if year < 4 then (1 - year + year / 2 * 2) * (20 - own)"
+            + "+ (year - year / 2 * 2) * own else 20 - own;");
+        x.years(1);
+        reign(x, 1, 0, 1);
+        x.years(2);
+        Check.due("who was it in year 1", x.book(1, NONE), 0);
+        reign(x, 1, 0, 1);
+        x.years(2);
+        reign(x, 1, 0, 1);
+        x.years(1);
+        reign(x, 2, 4, 1);
     }
 
     private static void copies() {
@@ -75,6 +88,8 @@ public final class BookTest {
         x.years(4);
         Check.due("year 2: 1 and 0", x.copied(0, 0), 2);
         Check.due("year 2: 1 and 0", x.copied(0, 1), 1);
+        x = Check.told("letter a 10; letter b 50; letter c 30; heir x 0 0 10 42 31; master m = off;");
+        Check.due("all letters now", x.copied(0, 1), 9);
         Check.due("no letters", copiedWithoutLetters(), 0);
     }
 
@@ -213,6 +228,41 @@ public final class BookTest {
         x.restore(2);
         Check.due("year of slot 2 now", x.count(3), 0);
         Check.due("slots", x.count(12), 3);
+    }
+
+    /** Two ways on from one slot: each has its own book. */
+    private static void twoWays() {
+        HandHeirs x = Check.told("letter a 40; letter b 40; letter c 40; heir x 9 0 20 20 20; heir y 9 0 30 30 30; heir z 9 0 30 31 30;"
+            + "heir u 9 0 9 9 9; days 0; drift = (own - hand) / 5; master m = off;");
+        x.years(1);
+        x.hold(0);
+        x.years(2);
+        x.hold(1);
+        x.restore(0);
+        for (int letter = 0; letter < 3; letter++) {
+            x.lesson(3, letter, 4);
+        }
+        x.years(3);
+        x.hold(2);
+        Check.due("who, on the way with lessons", x.book(1, NONE), 3);
+        Check.due("hand, on the way with lessons", x.book(3, 2), 38);
+        x.restore(1);
+        Check.due("year", x.count(3), 3);
+        Check.due("who, year 1", x.book(1, NONE), 2);
+        Check.due("who, year 2", x.book(2, NONE), 2);
+        Check.due("hand, year 1", x.book(1, 1), 39);
+        Check.due("hand, year 2", x.book(2, 2), 37);
+        Check.due("shape of the last heir", x.shape(3, 2, 0), 9);
+        x.restore(2);
+        Check.due("shape of the last heir", x.shape(3, 2, 0), 38);
+        Check.due("who, year 1", x.book(1, NONE), 3);
+        Check.due("who, year 3", x.book(3, NONE), 3);
+        x.lesson(3, 1, 1);
+        x.years(1);
+        x.undo();
+        x.undo();
+        Check.due("undone behind a restore", x.shape(3, 1, 0), 39);
+        Check.due("nothing more", x.undo(), false);
     }
 
     private static void counts() {

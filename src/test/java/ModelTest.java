@@ -140,7 +140,7 @@ public final class ModelTest {
         // a run with many years is dear in the Model, so only some have them
         int mostYears = dice(8) == 0 ? 101 : 6;
         for (int i = 0; i < calls; i++) {
-            if (dice(150) == 0) {
+            if (dice(40) == 0) {
                 text = text();
                 where += "then " + text + " : ";
                 due("read", Check.readText(x, text), m.read(text));

@@ -7,6 +7,10 @@ public final class TextTest {
         syntax();
         room();
         roomOfTokens();
+        roomOfTokensInEachTell();
+        takenBackIsGone();
+        namesOfAllKinds();
+        textAfterText();
         laterFaults();
         whatAFaultLeaves();
         whatASoundTextEnds();
@@ -37,10 +41,13 @@ public final class TextTest {
         Check.due("tape after it", x.count(9), 2000);
         Check.due("back(1)", x.back(1), 1999);
         Check.due("feed with room for 1", x.feed(0, 0, 0, 0, 0), -1);
+        Check.due("back(18)", x.back(18), 1981);
+        Check.due("feed with room for 19", x.feed(0, 0, 0, 0, 0), -1);
+        Check.due("tape after it", x.count(9), 1981);
         Check.due("back(-1)", x.back(-1), -1);
         Check.due("back(2000)", x.back(2000), -1);
         Check.due("back(least int)", x.back(Integer.MIN_VALUE), -1);
-        Check.due("back(19)", x.back(19), 1980);
+        Check.due("back(1)", x.back(1), 1980);
         Check.due("feed with room for 20", x.feed(0x20202020, 0, 0, 0, 0), 2000);
         Check.due("read", x.read(), 1);
         Check.due("place behind 1984 blanks", x.place(), 1984);
@@ -172,6 +179,116 @@ public final class TextTest {
         Check.fault("drift=1" + "*1".repeat(600) + ";", 2, 7 + 2 * 198 + 1);
         // a WRONG number ahead of it does not count then
         Check.fault("days99;".repeat(133) + "days 1;", 2, 133 * 7 + 5);
+    }
+
+    /** Each TOKEN of each kind of TELL as the 401st: ROOM if it fits, SYNTAX if not. */
+    private static void roomOfTokensInEachTell() {
+        String[] tells = {"letter a 1 ;", "heir a 1 2 3 4 ;", "master a = off + 1 * 2 ;", "learn h = ( off ) ;",
+            "drift = if 1 < 2 then 3 else 4 - 5 / 6 ;", "days 1 ;", "limit 1 ;", "seed 1 ;", "heir a 100 2 3 ;"};
+        for (String tell : tells) {
+            String[] tokens = tell.split(" ");
+            for (int ahead = 0; ahead < tokens.length; ahead++) {
+                String text = tokensInAll(400 - ahead);
+                for (int i = 0; i < ahead; i++) {
+                    text += tokens[i] + " ";
+                }
+                Check.fault(text + tokens[ahead] + " ", 2, text.length());
+                Check.fault(text + "then", tokens[ahead].equals("then") ? 2 : 1, text.length());
+                Check.fault(text, ahead == 0 ? 0 : 1, ahead == 0 ? -1 : text.length());
+            }
+        }
+    }
+
+    /** A sound text of so many tokens: days has three, and drift with or without a sum four and more. */
+    private static String tokensInAll(int count) {
+        String text = "heir h 1 1;";
+        int left = count - 5;
+        while (left % 3 != 0) {
+            text += "drift=0;";
+            left -= 4;
+        }
+        return text + "days1;".repeat(left / 3);
+    }
+
+    private static void takenBackIsGone() {
+        HandHeirs x = new HandHeirs();
+        Check.feedText(x, "letterx");
+        x.back(1);
+        Check.due("a word that was longer", x.read(), 1);
+        Check.due("its end", x.place(), 6);
+        Check.feedText(x, "letter a 12345");
+        x.back(4);
+        Check.due("a number that was longer", x.read(), 1);
+        Check.due("its end", x.place(), 10);
+        Check.feedText(x, "days 5;  x");
+        x.back(1);
+        Check.due("blanks and more", x.read(), 0);
+        Check.feedText(x, "days");
+        Check.feedText(x, " 7");
+        Check.feedText(x, ";");
+        Check.due("in parts", x.read(), 0);
+        Check.due("days", x.count(6), 7);
+    }
+
+    private static void namesOfAllKinds() {
+        String all = "";
+        for (int i = 0; i < 6; i++) {
+            all += "letter l" + (char) ('a' + i) + " 1; heir h" + (char) ('a' + i) + " 1 1; ";
+        }
+        String masters = "master ma = 1; master mb = 1; ";
+        Check.fault(all + masters, 0, -1);
+        for (String name : "la lb lc ld le lf ha hb hc hd he hf ma mb".split(" ")) {
+            Check.fault(all + masters + "master " + name + " = 1;", 3, all.length() + masters.length() + 7);
+        }
+        for (String name : "ma mb mc".split(" ")) {
+            Check.fault(masters + "master mc = 1; letter " + name + " 1;", 3, masters.length() + 22);
+        }
+        for (char c = 'a'; c <= 'f'; c++) {
+            Check.fault(all + "learn h" + c + " = 1;", 0, -1);
+            Check.fault(all + "learn l" + c + " = 1;", 4, all.length() + 6);
+        }
+        HandHeirs x = new HandHeirs();
+        for (int i = 0; i < 3; i++) {
+            Check.due("names of the text ahead are free again", Check.readText(x, all + masters + "master mc = 1;"), 0);
+            Check.due("and not there any more", Check.readText(x, "learn hb = 1;"), 4);
+        }
+        // names that a careless number would take for one another
+        Check.fault("letter az 1; letter ba 1; letter b 1; letter aa 1; letter zz 1; letter aaa 1;", 0, -1);
+        Check.fault("letter zzzzzzzz 1; letter zzzzzzzy 1; letter zzzzzzz 1; letter z 1;", 0, -1);
+        Check.fault("letter zzzzzzzz 1; letter zzzzzzzz 1;", 3, 26);
+    }
+
+    /** Nothing of a text stays when others come, however often. */
+    private static void textAfterText() {
+        HandHeirs x = new HandHeirs();
+        String full = "letter a 9; letter b 8; heir h 5 0 30 60; heir i 5 3 1 1; heir j 0 0 9 9; master m = off*" + "1*".repeat(60) + "1;"
+            + "master n = off; learn h = 1; learn j = 1; drift = 1; days 1; limit 500; seed 5;";
+        for (int i = 0; i < 7; i++) {
+            Check.due("full", Check.readText(x, full), 0);
+            Check.due("plan", x.plan(0, 0), 2 * (21 + 52));
+            Check.due("years", x.years(2), 2);
+            Check.due("hand", x.hand(0), 11);
+            Check.due("years had", x.heir(2, 3), 2);
+            Check.due("limit", x.count(7), 500);
+            Check.due("bare", Check.readText(x, "letter c 7; letter d 7; letter e 7; heir p 1 0; heir q 1 9; heir r 1 0; master s = off;"), 0);
+            int[] due = {3, 3, 1, 0, -2, 0, 3, 9999, 0, 0, 0, 0, 0};
+            for (int what = 0; what < due.length; what++) {
+                Check.due("count(" + what + ") of a bare text", x.count(what), due[what]);
+            }
+            for (int heir = 0; heir < 3; heir++) {
+                Check.due("shape", x.shape(heir, 1, 0), 50);
+                Check.due("learns", x.heir(heir, 4), 0);
+                Check.due("years had", x.heir(heir, 3), 0);
+            }
+            Check.due("written with seed 0", x.shape(1, 0, 1), 57);
+            Check.due("unlike", x.unlike(0, 0), 3 * 43);
+            x.years(1);
+            Check.due("no drift", x.hand(0) + x.hand(1) + x.hand(2), 21);
+            Check.due("no letters", Check.readText(x, "heir p 1 0; master m = 5;"), 0);
+            Check.due("plan of no letters", x.plan(0, 3), 0);
+            Check.due("a fault", Check.readText(x, full + "x"), 1);
+            Check.due("heirs", x.count(1), 1);
+        }
     }
 
     private static void laterFaults() {

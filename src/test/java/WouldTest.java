@@ -33,6 +33,8 @@ public final class WouldTest {
         planned(x, 1, 5, 0, 2, 3);
         planned(x, 1, 12, 0, 9, 3);
         planned(x, 0, 2, 0, 2, 0);
+        x.plan(0, 0);
+        Check.due("planOf without plan ahead", x.planOf(1, 4, 1), 3);
         Check.due("plan(1, 13)", x.plan(1, 13), NONE);
         Check.due("plan(1, -1)", x.plan(1, -1), NONE);
         Check.due("plan(2, 1)", x.plan(2, 1), NONE);
@@ -167,6 +169,7 @@ public final class WouldTest {
         Check.due("bias(0, 10)", x.bias(0, 10), 0);
         Check.due("bias(1, 10)", x.bias(1, 10), 10);
         Check.due("bias(1, 100)", x.bias(1, 100), 100);
+        Check.due("bias(1, 1)", x.bias(1, 1), 1);
         Check.due("bias(1, 101)", x.bias(1, 101), NONE);
         Check.due("bias(1, 0)", x.bias(1, 0), NONE);
         Check.due("bias(2, 1)", x.bias(2, 1), NONE);
