@@ -1042,13 +1042,16 @@ public final class HandHeirs {
         }
 
         private int mostOff(State state, int heir) {
-            int most = 0;
+            int farthest = 0;
+            int most = state.off(heir, 0);
             for (int letter = 1; letter < letters; letter++) {
-                if (state.off(heir, letter) > state.off(heir, most)) {
-                    most = letter;
+                int off = state.off(heir, letter);
+                if (off > most) {
+                    farthest = letter;
+                    most = off;
                 }
             }
-            return most;
+            return farthest;
         }
 
         /** Sets what the MASTERS look at: a LETTER, written in a SHAPE. */

@@ -70,6 +70,7 @@ public final class LawTest {
         tells("if 1<2 then 3 else if 1/0<1 then 2 else 1", 3);
         tells("if 2<1 then 3 else if 1/0<1 then 2 else 1", 0);
         tells("0/5+3", 3);
+        tells("7/1+1", 8);
     }
 
     private static void whatMastersLookAt() {

@@ -247,6 +247,7 @@ public final class TextTest {
             Check.fault(all + "learn h" + c + " = 1;", 0, -1);
             Check.fault(all + "learn l" + c + " = 1;", 4, all.length() + 6);
         }
+        Check.fault(all + masters + "learn ma = 1;", 4, all.length() + masters.length() + 6);
         HandHeirs x = new HandHeirs();
         for (int i = 0; i < 3; i++) {
             Check.due("names of the text ahead are free again", Check.readText(x, all + masters + "master mc = 1;"), 0);
@@ -266,6 +267,7 @@ public final class TextTest {
         for (int i = 0; i < 7; i++) {
             Check.due("full", Check.readText(x, full), 0);
             Check.due("plan", x.plan(0, 0), 2 * (21 + 52));
+            Check.due("plan", x.plan(0, 3), 2 * (21 + 52 - 15));
             Check.due("years", x.years(2), 2);
             Check.due("hand", x.hand(0), 11);
             Check.due("years had", x.heir(2, 3), 2);
@@ -288,6 +290,18 @@ public final class TextTest {
             Check.due("plan of no letters", x.plan(0, 3), 0);
             Check.due("a fault", Check.readText(x, full + "x"), 1);
             Check.due("heirs", x.count(1), 1);
+        }
+        for (int i = 0; i < 3; i++) {
+            Check.due("drifts", Check.readText(x, "drift = 1; letter a 9; heir g 1 1 99; heir h 5 0 9; master m = off; days 0;"), 0);
+            x.years(3);
+            Check.due("hand", x.hand(0), 12);
+            Check.due("years had", x.heir(1, 3), 3);
+            for (int j = 0; j < i; j++) {
+                Check.due("drifts not", Check.readText(x, "letter a 9; heir g 1 1 99; heir h 5 0 9; master m = off + 5; days 0;"), 0);
+                Check.due("years had", x.heir(1, 3), 0);
+                x.years(1);
+                Check.due("hand", x.hand(0), 9);
+            }
         }
     }
 
