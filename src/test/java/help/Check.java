@@ -1,9 +1,21 @@
+import java.util.function.IntUnaryOperator;
+
 /** What the tests share: they print every answer that is not due, and end with exit code 1 if there was one. */
 final class Check {
     private static int asked = 0;
     private static int wrong = 0;
+    private static String under = "";
 
     private Check() {
+    }
+
+    /** What stands ahead of all that is printed from now on: the sentence that is looked at. */
+    static void under(String words) {
+        under = words;
+    }
+
+    static int asked() {
+        return asked;
     }
 
     static void due(String call, long got, long want) {
@@ -11,13 +23,29 @@ final class Check {
         if (got != want) {
             wrong++;
             if (wrong <= 50) {
-                System.out.println(call + " answered " + got + ", due is " + want);
+                System.out.println(under + call + " answered " + got + ", due is " + want);
             }
         }
     }
 
     static void due(String call, boolean got, boolean want) {
         due(call, got ? 1 : 0, want ? 1 : 0);
+    }
+
+    static void due(String call, String got, String want) {
+        due(call + ": " + got + " (due is " + want + ")", got.equals(want), true);
+    }
+
+    /** A number from least to most is taken; one below, one above and those far off are NONE. */
+    static void range(String call, int least, int most, IntUnaryOperator of) {
+        int[] taken = {least, Math.min(least + 1, most), Math.max(most - 1, least), most};
+        for (int n : taken) {
+            due(call + " takes " + n, of.applyAsInt(n) != HandHeirs.NONE, true);
+        }
+        int[] refused = {least - 1, most + 1, least - 2, most + 2, Integer.MIN_VALUE, Integer.MAX_VALUE};
+        for (int n : refused) {
+            due(call + " of " + n, of.applyAsInt(n), HandHeirs.NONE);
+        }
     }
 
     /** Puts a text on the tape; it is filled up with blanks to twenties, which are taken back. */
@@ -43,6 +71,10 @@ final class Check {
         HandHeirs x = new HandHeirs();
         due("read of: " + text, readText(x, text), 0);
         return x;
+    }
+
+    static void sound(String text) {
+        fault(text, 0, HandHeirs.NONE);
     }
 
     static void fault(String text, int number, int place) {
