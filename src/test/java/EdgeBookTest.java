@@ -464,6 +464,7 @@ public final class EdgeBookTest {
         empty.years(3);
         Check.due("a SLOT that holds nothing told", empty.restore(0), true);
         Check.due("the year", empty.count(3), 0);
+        twoWays();
         whatIsNotHeld();
         Doc.promise(31, "false, and nothing happens: no such one, nothing is held.");
         for (int slot : new int[] {-1, 1, 3, Integer.MIN_VALUE, Integer.MAX_VALUE}) {
@@ -472,6 +473,42 @@ public final class EdgeBookTest {
         }
         for (int slot = 0; slot <= 2; slot++) {
             Check.due("restore(" + slot + ") of a new one", new HandHeirs().restore(slot), false);
+        }
+    }
+
+    /** From one SLOT on, with a lesson and without it: each way has a book of its own, to its last page. */
+    private static void twoWays() {
+        HandHeirs x = Check.told("letter a 50; letter b 50; letter c 50; letter d 50; letter e 50; letter f 50; heir x 9 0 40 40 40 40 40 40;"
+            + "heir y 0 0 45 45 45 45 45 45; days 0; master m = off; drift = if own < hand then 0 - 1 else 0;");
+        x.years(1);
+        x.hold(0);
+        x.years(3);
+        x.hold(1);
+        x.restore(0);
+        for (int letter = 0; letter < 6; letter++) {
+            x.lesson(0, letter, 2);
+        }
+        x.years(4);
+        x.hold(2);
+        // in year 0 y has it and the hand is 49 then; with the lesson x is at 49 too, else y goes on and the hand with him
+        for (int letter = 0; letter < 6; letter++) {
+            Check.due("with the lesson, last page", x.book(4, letter), 49);
+        }
+        Check.due("who, with the lesson", x.book(1, NONE), 0);
+        x.restore(1);
+        Check.due("years without it", x.count(8), 4);
+        Check.due("who, without it", x.book(1, NONE), 1);
+        Check.due("who, last page", x.book(3, NONE), 1);
+        for (int letter = 0; letter < 6; letter++) {
+            Check.due("first page", x.book(0, letter), 50);
+            Check.due("without the lesson", x.book(2, letter), 48);
+            Check.due("without the lesson, last page", x.book(3, letter), 47);
+        }
+        x.restore(2);
+        Check.due("years with it", x.count(8), 5);
+        Check.due("who in year 0", x.book(0, NONE), 1);
+        for (int year = 1; year <= 4; year++) {
+            Check.due("who in year " + year, x.book(year, NONE), 0);
         }
     }
 

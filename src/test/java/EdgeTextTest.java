@@ -213,6 +213,8 @@ public final class EdgeTextTest {
             } else {
                 Check.due("read of: " + text + token, fault, 1);
                 Check.due("place of: " + text + token, x.place(), text.length());
+                // what comes behind the first FAULT does not count, whatever it is
+                Check.fault(text + token + " ; days 1 ; letter letter ; ? ;", 1, text.length());
             }
         }
         HandHeirs x = new HandHeirs();
@@ -581,6 +583,17 @@ public final class EdgeTextTest {
         Check.fault("drift=" + "1+".repeat(198) + "(1);", 2, 6 + 2 * 198 + 2);
         Check.fault("drift=" + "1+".repeat(199) + "1;", 2, 6 + 2 * 199);
         Check.fault("days1;" + "x".repeat(8) + tokens(401), 1, 6);
+        // each TOKEN of each TELL as the 401st: ROOM if it fits there, SYNTAX if another one stands there
+        for (String tell : List.of("letter a 1 ;", "heir a 1 2 3 4 5 6 7 8 ;", "master a = off + 1 * 2 ;", "heir b 1 2 ; learn b = ( off ) ;",
+            "drift = if 1 < 2 then 3 else 4 - 5 / 6 ;", "days 1 ;", "limit 1 ;", "seed 1 ;", "heir a 100 10 100 ;")) {
+            String[] row = tell.split(" ");
+            for (int at = 0; at < row.length; at++) {
+                String ahead = tokens(400 - at) + String.join(" ", Arrays.copyOf(row, at)) + " ";
+                Check.fault(ahead + row[at], 2, ahead.length());
+                Check.fault(ahead + row[at] + " ? ;", 2, ahead.length());
+                Check.fault(ahead + "then", row[at].equals("then") ? 2 : 1, ahead.length());
+            }
+        }
     }
 
     private static void roomOfTells() {
@@ -699,7 +712,16 @@ public final class EdgeTextTest {
         Check.fault("heir aa 1 1; learn a = 1;", 4, 19);
         Check.fault("letter a 1; learn a = 1;", 4, 18);
         Check.fault("master a = 1; learn   a = 1;", 4, 22);
-        Check.sound(heirs(6) + "learn hf = 1; learn ha = 1;");
+        for (int count = 0; count <= 6; count++) {
+            String ahead = letters(6) + heirs(count) + masters(3);
+            for (String other : List.of("la", "lf", "ma", "mc", "h", "hz")) {
+                Check.fault(ahead + "learn " + other + " = 1;", 4, ahead.length() + 6);
+            }
+            for (char c = 'a'; c <= 'g'; c++) {
+                boolean told = c < 'a' + count;
+                Check.fault(ahead + "learn h" + c + " = 1;", told ? 0 : 4, told ? NONE : ahead.length() + 6);
+            }
+        }
         HandHeirs x = Check.told("heir a 1 1; learn a = 1;");
         Check.due("told in the text ahead", Check.readText(x, "learn a = 1;"), 4);
     }
@@ -759,6 +781,47 @@ public final class EdgeTextTest {
             Check.due("restore(" + slot + ")", y.restore(slot), false);
         }
         Check.due("forget", y.forget(), 0);
+        textAfterText();
+    }
+
+    /** Whatever was read before, sound or not, a text is read as if it were the first. */
+    private static void textAfterText() {
+        String full = letters(6) + "heir p 9 9 1 2 3 4 5 6; heir q 8 8 6 5 4 3 2 1; heir r 7 7 7; master s = off; master t = own; master u = year;"
+            + "learn p = 3; learn q = 4; learn r = 5; drift = 9; days 9; limit 5; seed 9999; ";
+        String some = "letter v 50; letter w 50; heir x 1 9; heir y 1 0; heir z 1 0; master u = off + 2; ";
+        String[] rows = {full, full + "?", full + full, full + "days 10;", "", some, "learn p = 1;",
+            "drift = 3; letter a 50; heir b 0 0; master c = 0;", "drift = 3; drift"};
+        HandHeirs x = new HandHeirs();
+        for (int i = 0; i < rows.length; i++) {
+            for (int j = 0; j < 2; j++) {
+                Check.readText(x, rows[i]);
+                x.years(2);
+                x.plan(0, 12);
+            }
+            Check.due("read of some", Check.readText(x, some), 0);
+            HandHeirs fresh = Check.told(some);
+            Check.due("at first, after text " + i, Seen.now(x), Seen.now(fresh));
+            Check.due("seed", x.shape(0, 0, 1), fresh.shape(0, 0, 1));
+            Check.due("years", x.years(3), fresh.years(3));
+            Check.due("later, after text " + i, Seen.now(x), Seen.now(fresh));
+            // an object has but 512 calls
+            x = i % 2 == 0 ? x : new HandHeirs();
+        }
+        x = new HandHeirs();
+        String longest = "letter a 50; heir b 0 0; master m = " + "1+".repeat(190) + "1; ";
+        for (int i = 0; i < 5; i++) {
+            Check.due("read of a long law", Check.readText(x, longest + (i == 2 ? "?" : "")), i == 2 ? 1 : 0);
+            Check.due("what it tells", x.unlike(0, 0), 191);
+        }
+        x = Check.told("letter a 50; heir x 0 0; heir y 0 0 0; master m = off; master n = own;");
+        x.years(2);
+        Check.due("the first had it", x.heir(0, 3), 2);
+        Check.due("read", Check.readText(x, "letter a 50; heir x 0 0 9; heir y 0 0; master m = off;"), 0);
+        Check.due("the first had it in no year of this text", x.heir(0, 3), 0);
+        x.years(2);
+        Check.due("the second had it", x.heir(1, 3), 2);
+        Check.due("read", Check.readText(x, "heir x 0 0; heir y 0 0; master m = 1;"), 0);
+        Check.due("nor did he in this", x.heir(1, 3), 0);
     }
 
     private static void promise1() {

@@ -153,6 +153,12 @@ public final class EdgeWouldTest {
         }
         Check.due("plan(0, 13)", x.plan(0, 13), NONE);
         Check.due("needs(0)", x.needs(0), 0);
+        // what was planned with LETTERS is not looked at any more
+        x = Check.told("letter a 50; heir g 1 0 40; master m = off;");
+        Check.due("plan with a letter", x.plan(0, 3), 7);
+        Check.due("read", Check.readText(x, "heir g 1 0; master m = 9;"), 0);
+        Check.due("plan(0, 3)", x.plan(0, 3), 0);
+        Check.due("plan(0, 0)", x.plan(0, 0), 0);
     }
 
     private static void needed() {
