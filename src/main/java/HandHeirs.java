@@ -212,7 +212,7 @@ public final class HandHeirs {
             return NONE;
         }
         if (letter == NONE) {
-            return pages.who[year];
+            return pages.givenIn(year);
         }
         return isLetter(letter) ? pages.handOf(year, letter) : NONE;
     }
@@ -341,7 +341,7 @@ public final class HandHeirs {
         switch (what) {
             case 0: return pages.reignFrom(first, now.led());
             case 1: return first;
-            default: return pages.who[first];
+            default: return pages.givenIn(first);
         }
     }
 
@@ -349,33 +349,33 @@ public final class HandHeirs {
         if (!isHeir(heir) || !isWithin(what, 0, 1)) {
             return NONE;
         }
-        int year = now.year;
-        int least = apartNow(heir);
-        // from the last page to the first, so that of alike ones the first is kept
-        for (int page = now.led() - 1; page >= 0; page--) {
-            int apart = apartThen(heir, page);
-            if (apart <= least) {
-                year = page;
+        int nearest = 0;
+        int least = apart(heir, 0);
+        for (int page = 1; page <= now.led(); page++) {
+            int apart = apart(heir, page);
+            if (apart < least) {
+                nearest = page;
                 least = apart;
             }
         }
-        return what == 0 ? year : least;
+        return what == 0 ? yearOn(nearest) : least;
     }
 
-    private int apartNow(int heir) {
+    private int apart(int heir, int page) {
         int apart = 0;
         for (int letter = 0; letter < will.letters; letter++) {
-            apart += now.off(heir, letter);
+            apart += Math.abs(handOn(page, letter) - now.own(heir, letter));
         }
         return apart;
     }
 
-    private int apartThen(int heir, int page) {
-        int apart = 0;
-        for (int letter = 0; letter < will.letters; letter++) {
-            apart += Math.abs(pages.handOf(page, letter) - now.own(heir, letter));
-        }
-        return apart;
+    /** The page behind the book's last one is the year that is now, with the HAND as it is. */
+    private int handOn(int page, int letter) {
+        return page < now.led() ? pages.handOf(page, letter) : now.hand[letter];
+    }
+
+    private int yearOn(int page) {
+        return page < now.led() ? page : now.year;
     }
 
     // ---- papers
@@ -399,15 +399,23 @@ public final class HandHeirs {
         }
         int found = 0;
         for (int page = 0; page <= now.led(); page++) {
-            boolean last = page == now.led();
-            if (paper.fits(last ? now.hand : pages.hands, last ? 0 : page * LETTERS, t, k)) {
+            if (isDated(page, t, k)) {
                 if (found == i) {
-                    return last ? now.year : page;
+                    return yearOn(page);
                 }
                 found++;
             }
         }
         return i == NONE ? found : NONE;
+    }
+
+    private boolean isDated(int page, int t, int known) {
+        for (int i = 0; i < known && i < paper.size; i++) {
+            if (Math.abs(handOn(page, paper.letters[i]) - paper.shapes[i]) > t) {
+                return false;
+            }
+        }
+        return true;
     }
 
     // ---- what is held
@@ -1020,6 +1028,10 @@ public final class HandHeirs {
             seed = 0;
             driftLaw = NONE;
             laws.size = 0;
+            for (int letter = 0; letter < LETTERS; letter++) {
+                // a text with a FAULT may have left any number, and the book has room for SHAPES alone
+                hand[letter] = 0;
+            }
             for (int heir = 0; heir < HEIRS; heir++) {
                 learnLaw[heir] = NONE;
             }
@@ -1131,31 +1143,43 @@ public final class HandHeirs {
         }
     }
 
-    /** The HAND and who was given the estate, year by year; how many years count is told by the State. */
+    /**
+     * The HAND and who was given the estate, year by year; how many years count is told by the State. A year is
+     * one number, as the book and its copies in the SLOTS would else be the most of what an object takes.
+     */
     private static final class Book {
-        final int[] who = new int[PAGES];
-        final int[] hands = new int[PAGES * LETTERS];
+        private static final int SHAPE_BITS = 7;
+        private static final int SHAPE_MASK = 127;
+
+        private final long[] years = new long[PAGES];
 
         void lead(State state) {
             if (state.year >= 0 && state.year < PAGES) {
-                who[state.year] = state.owner;
-                System.arraycopy(state.hand, 0, hands, state.year * LETTERS, LETTERS);
+                // who stands above the shapes, told from NOBODY on, so that it is not below 0
+                long packed = state.owner - NOBODY;
+                for (int letter = LETTERS - 1; letter >= 0; letter--) {
+                    packed = (packed << SHAPE_BITS) | state.hand[letter];
+                }
+                years[state.year] = packed;
             }
         }
 
         void copy(Book other, int led) {
-            System.arraycopy(other.who, 0, who, 0, led);
-            System.arraycopy(other.hands, 0, hands, 0, led * LETTERS);
+            System.arraycopy(other.years, 0, years, 0, led);
         }
 
         int handOf(int year, int letter) {
-            return hands[year * LETTERS + letter];
+            return (int) (years[year] >>> (SHAPE_BITS * letter)) & SHAPE_MASK;
+        }
+
+        int givenIn(int year) {
+            return (int) (years[year] >>> (SHAPE_BITS * LETTERS)) + NOBODY;
         }
 
         /** How many years from that one on, without a break, went to the same one. */
         int reignFrom(int first, int led) {
             int end = first;
-            while (end < led && who[end] == who[first]) {
+            while (end < led && givenIn(end) == givenIn(first)) {
                 end++;
             }
             return end - first;
@@ -1168,7 +1192,7 @@ public final class HandHeirs {
             int first = 0;
             while (first < led) {
                 int reigned = Math.max(1, reignFrom(first, led));
-                if (who[first] >= 0 && reigned > most) {
+                if (givenIn(first) >= 0 && reigned > most) {
                     best = first;
                     most = reigned;
                 }
@@ -1222,8 +1246,8 @@ public final class HandHeirs {
     /** What is TOLD. */
     private static final class Paper {
         int size = 0;
-        private final int[] letters = new int[PAPERS];
-        private final int[] shapes = new int[PAPERS];
+        final int[] letters = new int[PAPERS];
+        final int[] shapes = new int[PAPERS];
 
         int add(int letter, int shape) {
             if (size >= PAPERS) {
@@ -1233,17 +1257,6 @@ public final class HandHeirs {
             shapes[size] = shape;
             size++;
             return size - 1;
-        }
-
-        /** Whether the HAND that starts there in a row is no more than t apart in each that is KNOWN. */
-        boolean fits(int[] hands, int start, int t, int known) {
-            for (int i = 0; i < known && i < size; i++) {
-                int at = start + letters[i];
-                if (at < hands.length && Math.abs(hands[at] - shapes[i]) > t) {
-                    return false;
-                }
-            }
-            return true;
         }
     }
 

@@ -9,6 +9,8 @@ public final class DoneTest {
         undoing();
         undoingManyThings();
         theBook();
+        allThatABookCanHold();
+        afterWrongShapes();
         moreThanTheBookHolds();
         Check.end();
     }
@@ -176,6 +178,39 @@ public final class DoneTest {
         x = Check.told("letter a 40; heir x 0 0 30; master m = off; limit 5;");
         x.years(1);
         Check.due("nobody in the book", x.book(0, NONE), -2);
+    }
+
+    /** Six letters from 0 to 99, each of six heirs in his turn, then nobody: a year's page is as full as can be. */
+    private static void allThatABookCanHold() {
+        HandHeirs x = Check.told("letter a 0; letter b 99; letter c 1; letter d 98; letter e 50; letter f 99; heir g 0 0 0;"
+            + "heir h 0 0 10; heir i 0 0 20; heir j 0 0 30; heir k 0 0 40; heir l 0 0 50; days 0; limit 100; drift = 1 - letter;"
+            + "master m = if letter < 1 then (own - year * 10) * (own - year * 10) else 0;");
+        x.years(9);
+        int[] first = {0, 99, 1, 98, 50, 99};
+        int[] who = {0, 1, 2, 3, 4, 5, 5, -2, -2};
+        for (int year = 0; year < 9; year++) {
+            Check.due("full: book(" + year + ", NONE)", x.book(year, NONE), who[year]);
+            int drifts = Math.min(year, 7);
+            for (int letter = 0; letter < 6; letter++) {
+                int shape = Math.max(0, Math.min(99, first[letter] + drifts * (1 - letter)));
+                Check.due("full: book(" + year + ", " + letter + ")", x.book(year, letter), shape);
+            }
+        }
+    }
+
+    /** What a text with a FAULT told is not seen in the book of the next one. */
+    private static void afterWrongShapes() {
+        HandHeirs x = new HandHeirs();
+        String wrong = "letter a 9999; letter b 9999; letter c 9999; letter d 9999; letter e 9999; letter f 9999;";
+        String sound = "letter a 40; heir x 0 0 40; heir y 0 0 41; master m = off;";
+        for (int i = 0; i < 3; i++) {
+            Check.due("a text with shapes that are none", Check.readText(x, wrong), 5);
+            Check.due("a sound text", Check.readText(x, sound), 0);
+            x.years(2);
+            Check.due("hand", x.book(1, 0), 40);
+            Check.due("who", x.book(1, NONE), 0);
+            Check.due("reign", x.reign(0), 2);
+        }
     }
 
     private static void moreThanTheBookHolds() {

@@ -1,11 +1,19 @@
+import java.lang.reflect.Array;
 import java.lang.reflect.Constructor;
 import java.lang.reflect.Field;
 import java.lang.reflect.Method;
 import java.lang.reflect.Modifier;
 import java.nio.file.Files;
 import java.nio.file.Path;
+import java.util.ArrayDeque;
+import java.util.ArrayList;
 import java.util.Arrays;
+import java.util.Collections;
+import java.util.Deque;
+import java.util.IdentityHashMap;
+import java.util.List;
 import java.util.Random;
+import java.util.Set;
 import java.util.TreeSet;
 import java.util.regex.Matcher;
 import java.util.regex.Pattern;
@@ -20,6 +28,7 @@ public final class RulesTest {
         face();
         words();
         classes();
+        room();
         anythingGoes();
         Check.end();
     }
@@ -93,6 +102,43 @@ public final class RulesTest {
                 Check.due("seven parameters: " + m, m.getParameterCount() <= 7, true);
             }
         }
+    }
+
+    /** No call makes anything (see words), so what a new object takes is all; as many of them as one may have calls must fit. */
+    private static void room() throws Exception {
+        int objects = 0;
+        int elements = 0;
+        Set<Object> seen = Collections.newSetFromMap(new IdentityHashMap<>());
+        Deque<Object> open = new ArrayDeque<>(List.of(new HandHeirs()));
+        while (!open.isEmpty()) {
+            Object one = open.pop();
+            if (!seen.add(one)) {
+                continue;
+            }
+            objects++;
+            List<Object> parts = partsOf(one);
+            elements += parts.size();
+            parts.stream().filter(p -> p != null && (p.getClass().isArray() || p.getClass().getNestHost() == HandHeirs.class)).forEach(open::push);
+        }
+        Check.due("objects and arrays of 512 new objects: 512 * " + objects, 512 * objects <= 600_000, true);
+        Check.due("fields and elements of 512 new objects: 512 * " + elements, 512 * elements <= 7_300_000, true);
+    }
+
+    private static List<Object> partsOf(Object one) throws Exception {
+        List<Object> parts = new ArrayList<>();
+        if (one.getClass().isArray()) {
+            for (int i = 0; i < Array.getLength(one); i++) {
+                parts.add(Array.get(one, i));
+            }
+            return parts;
+        }
+        for (Field f : one.getClass().getDeclaredFields()) {
+            if (!Modifier.isStatic(f.getModifiers())) {
+                f.setAccessible(true);
+                parts.add(f.get(one));
+            }
+        }
+        return parts;
     }
 
     /** Any numbers in any state: what the machine throws would end this test. */
